@@ -441,7 +441,6 @@ public final class SpiritWall {
     public int findError() {
         history.keep(now);
         now.errorTold = false;
-        now.toldError = 0;
         return levelError();
     }
 
@@ -738,7 +737,6 @@ public final class SpiritWall {
         void clear() {
             copyRow(settings, FIRST_SETTING);
             errorTold = false;
-            toldError = 0;
             fill(bench, 0);
             fill(withHeight, 0);
             sights = 0;
@@ -1097,7 +1095,6 @@ public final class SpiritWall {
 
         void grow() {
             number = 0;
-            fill(climbs, 0);
             for (int m = 0; m < MAX_MARKS; m++) put(parts, m, m);
             sortEdges();
             for (int i = 0; i < edges.number; i++) {

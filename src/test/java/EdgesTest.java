@@ -232,6 +232,13 @@ public final class EdgesTest {
         CHECK.dueThrow("17 above", Check.INDEX, () -> x.edge(0, 4, -1));
         CHECK.dueThrow("17 what below", Check.ARGUMENT, () -> x.edge(0, 1, -1));
         CHECK.dueThrow("17 what above, no edge", Check.ARGUMENT, () -> x.edge(0, 3, 7));
+        int[] readings = {5, -3, 4, 10, 0};
+        int[] spreads = {0, 8, 8, 13, 13};
+        SpiritWall z = Check.wall("mark a 0; mark b 2000; mark c 1; sight b c fore 500;");
+        for (int i = 0; i < 5; i++) {
+            z.addSight(0, 1, 0, readings[i], 20);
+            CHECK.due("17 spread of " + (i + 1), spreads[i], z.edge(0, 1, 6));
+        }
         SpiritWall y = Check.wall("mark a 0; mark b 99999; sight b a fore -5;");
         CHECK.due("17 least weight", 10, y.edge(0, 1, 2));
         CHECK.due("17 spread of one", 0, y.edge(0, 1, 6));
@@ -250,6 +257,15 @@ public final class EdgesTest {
                 + "sight b c fore 100; sight a d fore 5000; error 0;");
         CHECK.due("18 a to d", 10 - 100 - 1, y.along(0, 3));
         CHECK.due("18 d to a", 91, y.along(3, 0));
+        y = Check.wall("error 0; mark a 0; mark b 6000; mark c 1000; mark d 3000; mark e 10000; sight a c fore 1;"
+                + "sight b d fore 10; sight c d fore 100; sight e b fore 1000; sight e a fore 5;");
+        int[][] due = {{0, 91, 1, 101, -909}, {-91, 0, -90, 10, -1000}, {-1, 90, 0, 100, -910}, {-101, -10, -100, 0, -1010},
+            {909, 1000, 910, 1010, 0}};
+        for (int a = 0; a < 5; a++) {
+            for (int b = 0; b < 5; b++) CHECK.due("18 along " + a + " " + b, due[a][b], y.along(a, b));
+        }
+        CHECK.due("18 the loop on it", "0 4 1 3 2", y.loopMark(0, 0) + " " + y.loopMark(0, 1) + " " + y.loopMark(0, 2) + " "
+                + y.loopMark(0, 3) + " " + y.loopMark(0, 4));
     }
 
     private static void promise23() {

@@ -66,7 +66,19 @@ public final class HeightsTest {
         x.addSight(3, 1, 0, 0, 20);
         x.tellError(0);
         CHECK.due("25 far off", 145, x.tension(3));
+        x.swap(5, 1);
+        CHECK.due("25 by the sights as they are now", 144, x.tension(3));
+        x.swap(5, 0);
         CHECK.due("26 smallest of b and d", 1, x.tensest());
+        x.swap(5, -200);
+        x.strike(5, true);
+        CHECK.due("26 by the sights as they are now", 0, x.tensest());
+        x.fix(1, 400);
+        CHECK.due("25 by the first edge", "250 259 259", x.tension(0) + " " + x.tension(1) + " " + x.tension(2));
+        x.fix(1, -400);
+        x.strike(1, true);
+        x.strike(2, true);
+        CHECK.due("25 by the first edge alone", 550, x.tension(1));
         CHECK.dueThrow("25 mark below", Check.INDEX, () -> x.tension(-1));
         CHECK.dueThrow("25 mark above", Check.INDEX, () -> x.tension(4));
         CHECK.due("26 no marks", NONE, new SpiritWall().tensest());
@@ -123,11 +135,23 @@ public final class HeightsTest {
         CHECK.due("43 benches alone", "100 ? ? 7", heights(x));
         x.undo();
         CHECK.due("43 undo", "100 150 170 7", heights(x));
+        benchesAnew();
         x.free(0);
         x.free(3);
         CHECK.due("43 without benches", 0, x.level());
         CHECK.due("43 none", "? ? ? ?", heights(x));
         CHECK.due("43 no marks", 0, new SpiritWall().level());
+    }
+
+    /** A bench has the way 0, however far it was levelled before. */
+    private static void benchesAnew() {
+        SpiritWall x = Check.wall("error 0; mark a 0 at 0; mark b 6000; mark c 8000; mark d 13000 at 500;"
+                + "sight a b fore 1; sight b c fore 2; sight c d fore 4;");
+        x.level();
+        CHECK.due("43 c by d", "0 1 496 500", heights(x));
+        x.fix(1, 50);
+        x.level();
+        CHECK.due("43 c by b as a bench", "0 50 52 500", heights(x));
     }
 
     private static void promise43Ways() {
@@ -177,6 +201,10 @@ public final class HeightsTest {
         x.fix(0, 2);
         x.relax(1);
         CHECK.due("44 down above 0", "2 0 -1", heights(x));
+        x = Check.wall("error 0; mark a 7 at 7; mark b 10; mark c 14 at 0; sight a b fore 0; sight b c fore 0;");
+        x.level();
+        x.relax(1);
+        CHECK.due("44 nearly 4, exactly", (7 * 333333) / 583333, x.height(1));
         x = Check.wall("mark a 0 at 30; mark b 1; mark c 99999 at 99999; error 0; sight a b fore 0;"
                 + "sight b c fore 0;");
         x.level();

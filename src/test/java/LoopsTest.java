@@ -53,6 +53,13 @@ public final class LoopsTest {
                 + "sight d b fore 1; sight d c fore 1;");
         CHECK.due("19 the shortest first", "0 1", x.edge(1, 3, 3) + " " + x.edge(2, 3, 3));
         CHECK.due("19 loop of the longest", "1 3 4 16000 0 1 : 1 3 2 0", loop(x, 0));
+        x = Check.wall("mark a 0; mark b 4000; mark c 2000; error 0; sight a b fore 9; sight b c fore 3; sight c a fore 1;");
+        CHECK.due("19 the first edge is the longest", "0 1 3 8000 13 1 : 0 1 2", loop(x, 0));
+        CHECK.due("19 in the forest", "0 1 1", x.edge(0, 1, 3) + " " + x.edge(1, 2, 3) + " " + x.edge(2, 0, 3));
+        CHECK.due("19 along it", "-4 4 0", x.along(0, 1) + " " + x.along(1, 0) + " " + x.along(1, 1));
+        x = Check.wall("mark t 5000; mark u 1000; mark v 4000; mark a 0; error 0; sight a u fore 1; sight v t fore 10;"
+                + "sight u v fore 100; sight a t fore 1000;");
+        CHECK.due("19 along two parts that were joined late", "0 3 4 10000 -889 0 : 0 3 1 2", loop(x, 0));
         x = Check.wall("mark a 2000; mark b 0; mark c 4000; mark d 6000; mark e 8000; sight a c fore 1; sight c d fore 1;"
                 + "sight a b fore 1; sight b d fore 1; sight d e fore 1; sight c e fore 1; sight a e fore 1;");
         CHECK.due("19 three loops", "0 4 4 12000 -2 1 : 0 4 3 2", loop(x, 0));
@@ -92,7 +99,32 @@ public final class LoopsTest {
         StringBuilder marks = new StringBuilder();
         for (int i = 0; i < 13; i++) marks.append(y.loopMark(0, i)).append(' ');
         CHECK.due("20 twelve marks", "0 11 10 9 8 7 6 5 4 3 2 1 -1 ", marks.toString());
+        manyLoops();
         CHECK.due("20 twelve edges", "12 22 11", y.loop(0, 2) + " " + y.loop(0, 3) + " " + y.loop(0, 4));
+    }
+
+    /** Ten marks, of which all but five pairs have a sight: the forest is the chain, 31 loops are told. */
+    private static void manyLoops() {
+        StringBuilder text = new StringBuilder("error 0;");
+        for (int i = 0; i < 10; i++) text.append("mark ").append((char) ('a' + i)).append(i).append(';');
+        for (int i = 0; i < 10; i++) {
+            for (int k = i + 1; k < 10; k++) {
+                if (k - i == 5) continue;
+                text.append("sight ").append((char) ('a' + k)).append(' ').append((char) ('a' + i)).append(" fore 0;");
+            }
+        }
+        SpiritWall x = Check.wall(text.toString());
+        CHECK.due("20 many", "40 9 31 31", x.count(4) + " " + x.count(5) + " " + x.count(6) + " " + x.count(7));
+        int loop = 0;
+        for (int i = 0; i < 10; i++) {
+            for (int k = i + 2; k < 10; k++) {
+                if (k - i == 5) continue;
+                String due = i + " " + k + " " + (k - i + 1) + " " + 2 * (k - i) + " 0 1 : " + i;
+                for (int m = k; m > i; m--) due += " " + m;
+                CHECK.due("20 loop " + loop, due, loop(x, loop));
+                loop++;
+            }
+        }
     }
 
     private static String ring() {
@@ -175,6 +207,8 @@ public final class LoopsTest {
         x.swap(3, 30);
         CHECK.due("32 not struck any more, now two close", 1, x.closedIf(4));
         CHECK.due("32 still struck", 1, x.count(3));
+        x.set(3, 999);
+        CHECK.due("32 both close with it", "2 1", x.closedIf(4) + " " + x.count(7));
         CHECK.dueThrow("32 below", Check.INDEX, () -> x.closedIf(-1));
         CHECK.dueThrow("32 above", Check.INDEX, () -> x.closedIf(5));
     }

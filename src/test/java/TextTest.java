@@ -106,6 +106,9 @@ public final class TextTest {
         CHECK.due("4 benches", 0, x.count(1));
         CHECK.due("4 heights", 0, x.count(8));
         x.truncate(0);
+        CHECK.due("4 the same kinds again", 1, Check.parse(x, "mark a 1; length 7; error 1; bend 1; warm 1; limit 1;"));
+        CHECK.due("4 and again", 1, Check.parse(x, "mark a 1; length 8; error 1; bend 1; warm 1; limit 1;"));
+        CHECK.due("4 later one", 8, x.setting(0));
         CHECK.due("4 empty text", 0, x.parse());
         CHECK.due("4 no marks", 0, x.count(0));
     }
@@ -247,7 +250,7 @@ public final class TextTest {
             CHECK.due("11 " + names[i], i, x.find());
             CHECK.due("11 the buffer is empty behind " + names[i], false, x.truncate(1));
         }
-        for (String text : new String[] {"", "c", "aa", "abcde", "abcdefg", "a ", " a", "mark", "A", "a\u0000", "abcdefaz",
+        for (String text : new String[] {"", "c", "aa", "abcde", "abcdefg", "a ", " a", "mark", "A", "a\u0000", "abcdefaz", "dabcdef",
             "`a", "{", "\u00e1"}) {
             Check.feed(x, text);
             CHECK.due("11 none: " + text, NONE, x.find());
