@@ -11,16 +11,26 @@ final class Check {
     private final String test;
     private int checks = 0;
     private int wrong = 0;
+    private String beginning = "";
 
     Check(String test) {
         this.test = test;
+    }
+
+    /** From now on each label stands behind this. */
+    void begin(String words) {
+        beginning = words;
+    }
+
+    int made() {
+        return checks;
     }
 
     void due(String label, Object due, Object got) {
         checks++;
         if (same(due, got)) return;
         wrong++;
-        System.out.println(test + ": " + label + " answered " + got + ", due is " + due);
+        System.out.println(test + ": " + beginning + label + " answered " + got + ", due is " + due);
     }
 
     void dueThrow(String label, String due, Call call) {

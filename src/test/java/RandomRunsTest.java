@@ -8,6 +8,8 @@ import java.util.Random;
 
 /** Makes the same runs of calls on SpiritWall and on PlainWall, which must answer the same. */
 public final class RandomRunsTest {
+    /** An object may be used for 512 calls; a text that is fed and parsed takes up to 50. */
+    private static final int MOST_CALLS = 460;
     private static final String[] NAMES = {"a", "b", "wall", "door", "nail", "q", "zz", "corner", "m", "lamp", "hook", "x"};
     private static final List<String> QUERIES = List.of("printMarks", "misfit", "levelError", "suspect", "worstLoop",
             "outlier", "tensest", "leastLimit", "bridges", "closedShare", "meanSwings");
@@ -37,7 +39,8 @@ public final class RandomRunsTest {
         methods.removeIf(m -> !java.lang.reflect.Modifier.isPublic(m.getModifiers()));
         methods.sort(Comparator.comparing(Method::getName));
         feedText(text(), "parse");
-        while (made.size() < 500 && !wrong) {
+        if (random.nextInt(8) == 0) fillUp();
+        while (made.size() < MOST_CALLS && !wrong) {
             int kind = random.nextInt(100);
             if (kind == 0) {
                 feedText(text(), "parse");
@@ -62,6 +65,16 @@ public final class RandomRunsTest {
         call(method.getName(), arguments);
         if (List.of("printMarks", "printLoop", "printSight").contains(method.getName())) callOutput();
         if (random.nextInt(8) == 0) call(QUERIES.get(random.nextInt(QUERIES.size())));
+    }
+
+    /** Adds sights until there are forty, and tries one more. */
+    private void fillUp() throws Exception {
+        for (int i = plain.count(2); i <= 40; i++) {
+            Object[] arguments = new Object[5];
+            for (int place = 0; place < 5; place++) arguments[place] = argument("addSight", place);
+            if (arguments[0].equals(arguments[1])) arguments[1] = 0;
+            call("addSight", arguments);
+        }
     }
 
     private void callOutput() throws Exception {
@@ -96,12 +109,12 @@ public final class RandomRunsTest {
     }
 
     private int markNumber() {
-        int marks = Math.max(1, wall.count(0));
+        int marks = Math.max(1, plain.count(0));
         return random.nextInt(marks);
     }
 
     private int sightNumber() {
-        return random.nextInt(Math.max(1, wall.count(2)));
+        return random.nextInt(Math.max(1, plain.count(2)));
     }
 
     private int reading() {
