@@ -462,7 +462,10 @@ public final class ChangeBoundaryTest {
             Boundary.refused(CHECK, what + " to the greatest", Check.ARGUMENT, x -> x.set(setting, GREATEST));
         }
         for (int what : new int[] {-1, 4, 5, LEAST, GREATEST}) {
-            Boundary.refused(CHECK, "what " + what, Check.ARGUMENT, x -> x.set(what, 1));
+            for (int value = -1; value <= 1; value++) {
+                int small = value;
+                Boundary.refused(CHECK, "what " + what + " to " + value, Check.ARGUMENT, x -> x.set(what, small));
+            }
             Boundary.refused(CHECK, "what and value " + what, Check.ARGUMENT, x -> x.set(what, LEAST));
         }
     }

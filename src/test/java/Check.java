@@ -1,3 +1,5 @@
+import java.lang.reflect.InvocationTargetException;
+
 /** Counts and tells the answers of a test that are not as due. */
 final class Check {
     static final String INDEX = "IndexOutOfBoundsException";
@@ -41,6 +43,17 @@ final class Check {
             got = e.getClass().getSimpleName();
         }
         due(label, due, got);
+    }
+
+    /** What a call by its name answers or throws. */
+    static Object answer(Object object, String name, Object... arguments) throws ReflectiveOperationException {
+        Class<?>[] types = new Class<?>[arguments.length];
+        for (int i = 0; i < types.length; i++) types[i] = arguments[i] instanceof Boolean ? boolean.class : int.class;
+        try {
+            return object.getClass().getMethod(name, types).invoke(object, arguments);
+        } catch (InvocationTargetException e) {
+            return "throws." + e.getCause().getClass().getSimpleName();
+        }
     }
 
     private static boolean same(Object due, Object got) {

@@ -1,5 +1,3 @@
-import java.lang.reflect.InvocationTargetException;
-import java.lang.reflect.Method;
 import java.util.ArrayList;
 import java.util.Arrays;
 import java.util.List;
@@ -187,18 +185,7 @@ public final class FullWallTest {
 
     private void make(String name, Object... arguments) throws Exception {
         calls++;
-        Class<?>[] types = new Class<?>[arguments.length];
-        for (int i = 0; i < types.length; i++) types[i] = arguments[i] instanceof Boolean ? boolean.class : int.class;
-        Object due = answer(plain, PlainWall.class.getMethod(name, types), arguments);
-        Object got = answer(wall, SpiritWall.class.getMethod(name, types), arguments);
-        CHECK.due(label + ": " + name + Arrays.toString(arguments), due, got);
-    }
-
-    private static Object answer(Object object, Method method, Object[] arguments) throws Exception {
-        try {
-            return method.invoke(object, arguments);
-        } catch (InvocationTargetException e) {
-            return "throws." + e.getCause().getClass().getSimpleName();
-        }
+        Object due = Check.answer(plain, name, arguments);
+        CHECK.due(label + ": " + name + Arrays.toString(arguments), due, Check.answer(wall, name, arguments));
     }
 }

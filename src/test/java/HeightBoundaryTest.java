@@ -135,6 +135,18 @@ public final class HeightBoundaryTest {
         }
     }
 
+    @Says(at = "Term 4", text = "divided by the sum of these weights, rounded down")
+    static void term4OneLessThanTheWeights() {
+        int[][] due = {{2, 0, 0}, {1, 1, 1}, {-2, 0, -1}, {-1, -1, -1}, {0, 2, 1}, {0, -2, -2}, {-2, -1, -2}};
+        for (int[] row : due) {
+            SpiritWall x = Check.wall("error 0;mark a 99999 at " + row[0] + ";mark b 0;mark c 90909 at " + row[1]
+                    + ";sight a b fore 0;sight b c fore 0;");
+            x.level();
+            x.relax(1);
+            CHECK.due("10 times " + row[0] + " and 11 times " + row[1] + " by 21", row[2], x.height(1));
+        }
+    }
+
     @Says(at = "Term 4", text = "it stays without such edges")
     static void term4Stays() {
         SpiritWall x = Check.wall("error 0;mark a 0 at 5;mark b 10;mark c 20;sight a b fore 1;sight b c fore 1;");

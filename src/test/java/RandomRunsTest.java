@@ -1,4 +1,3 @@
-import java.lang.reflect.InvocationTargetException;
 import java.lang.reflect.Method;
 import java.util.ArrayList;
 import java.util.Arrays;
@@ -136,20 +135,10 @@ public final class RandomRunsTest {
     private void call(String name, Object... arguments) throws Exception {
         if (wrong) return;
         made.add(name + Arrays.toString(arguments));
-        Class<?>[] types = new Class<?>[arguments.length];
-        for (int i = 0; i < types.length; i++) types[i] = arguments[i] instanceof Boolean ? boolean.class : int.class;
-        Object due = answer(plain, PlainWall.class.getMethod(name, types), arguments);
-        Object got = answer(wall, SpiritWall.class.getMethod(name, types), arguments);
+        Object due = Check.answer(plain, name, arguments);
+        Object got = Check.answer(wall, name, arguments);
         check.due(made.get(made.size() - 1), due, got);
         wrong = !due.equals(got);
-    }
-
-    private static Object answer(Object object, Method method, Object[] arguments) throws Exception {
-        try {
-            return method.invoke(object, arguments);
-        } catch (InvocationTargetException e) {
-            return "throws." + e.getCause().getClass().getSimpleName();
-        }
     }
 
     // ---- texts

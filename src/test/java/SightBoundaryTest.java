@@ -88,7 +88,7 @@ public final class SightBoundaryTest {
     @Says(at = "Term 2", text = "its bend is BEND times d times d, divided by 100000000, rounded down")
     static void term2Bend() {
         int[][] due = {{0, 99999, 0}, {1, 9999, 0}, {1, 10000, 1}, {1, 14142, 1}, {1, 14143, 2}, {4, 5000, 1}, {4, 4999, 0}, {99, 1, 0},
-            {99, 1005, 0}, {99, 1006, 1}, {1, 46341, 21}, {1, 99999, 99}, {99, 99999, 9899}, {98, 99999, 9799}};
+            {99, 1005, 0}, {99, 1006, 1}, {1, 46341, 21}, {16, 2500, 1}, {12, 76103, 694}, {98, 99591, 9719}, {1, 99999, 99}, {99, 99999, 9899}, {98, 99999, 9799}};
         for (int[] row : due) {
             SpiritWall x = withSight(row[1], "bend " + row[0] + ";error 0;", 0, 0, 20);
             CHECK.due(row[0] + " at " + row[1], row[2] + " " + -row[2], x.sight(0, 7) + " " + x.sight(0, 9));

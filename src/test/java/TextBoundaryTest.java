@@ -154,6 +154,28 @@ public final class TextBoundaryTest {
         CHECK.due("no semicolon", "-1 1 8", x.parse() + " " + x.errorCode() + " " + x.errorOffset());
     }
 
+    @Says(at = "Promise 3", text = "Shortens the input buffer to its first bytes")
+    static void promise3BytesBehindDoNotCount() {
+        cut("mark a 5 \n  ", 8, 1, 8);
+        cut("mark a 5;  ", 7, 1, 7);
+        cut("mark a 5;", 3, 1, 0);
+        cut("limit 1000;", 9, 1, 9);
+        cut("limit 100000;", 10, 2, 6);
+        cut("mark abcdefg", 11, 1, 11);
+        cut("mark a 5 at -5;", 13, 1, 13);
+        SpiritWall x = Check.wall("mark a 1;mark ab 2;");
+        Check.feed(x, "ab");
+        x.truncate(1);
+        CHECK.due("find", 0, x.find());
+    }
+
+    private static void cut(String text, int length, int code, int offset) {
+        SpiritWall x = new SpiritWall();
+        Check.feed(x, text);
+        x.truncate(length);
+        CHECK.due("<" + text + "> cut to " + length, "-1 " + code + " " + offset, x.parse() + " " + x.errorCode() + " " + x.errorOffset());
+    }
+
     // ---- parse
 
     @Says(at = "Promise 4", text = "Parses the input buffer and empties it, whether it succeeds or not")
@@ -283,9 +305,10 @@ public final class TextBoundaryTest {
 
     @Says(at = "Promise 11", text = "NONE if there is none with this name")
     static void promise11None() {
-        SpiritWall x = Check.wall("mark a 1;mark abcdef 2;mark z 3;mark zzzzzz 4;");
-        for (String text : new String[] {"", "b", "y", "aa", "zz", "abcde", "abcdefg", "aabcdef", "gabcdef", "zabcdef", "zzzzzzz", "mark",
-            "at", "A", "`", "{", "\u00e1", "\u00fa", "1", "-", "a".repeat(900)}) {
+        SpiritWall x = Check.wall("mark a 1;mark abcdef 2;mark z 3;mark zzzzzz 4;mark aa 5;");
+        for (String text : new String[] {"", "b", "y", "ab", "zz", "abcde", "abcdefg", "aabcdef", "gabcdef", "zabcdef", "zzzzzzz", "mark",
+            "at", "A", "`", "{", "\u00e1", "\u00fa", "1", "-", "a".repeat(900), "dabcdef", "habcdef", "pzzzzzz", "d".repeat(894) + "abcdef", "`a",
+            "a`", "``a", "`abcdef", "\u0081", "@a", "\u0000a", "\u0080a"}) {
             Check.feed(x, text);
             CHECK.due("<" + text + ">", NONE, x.find());
         }
